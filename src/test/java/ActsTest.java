@@ -198,6 +198,10 @@ public final class ActsTest {
         Due.due("next above 900", x.next(), 0);
         x.day();
         Due.due("REST on another day", x.may(9), 1);
+        CarriedAsFarAsTheStile y = Due.told("up 2;stile;act 6");
+        for (int i = 0; i < 89; i++) y.does(9);
+        Due.due("MINUTES at the stile", y.status(3), 901);
+        Due.due("REST at 901", y.may(9), 0);
     }
 
     /** Promise 36. */

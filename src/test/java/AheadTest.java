@@ -66,6 +66,9 @@ public final class AheadTest {
         CarriedAsFarAsTheStile y = Due.told("up 0;up 0;person 0 0;person 3 0;tired 1 40;worn 9");
         ahead("MINUTES where the greatest is the same", y, 1, 1, 40, 7, 0);
         ahead("MINUTES where the greatest is the same, two", y, 2, 2, 40, 13, 0, 0);
+        CarriedAsFarAsTheStile z = Due.told("up 3;up 3;up 0;person 0 0;person 0 0;tired 1 40;worn 13;legs 1;biscuits 0;races 0");
+        // He may not twice up 3; carried twice on end is a minute less than carried, walked and carried again.
+        ahead("a later row of fewer MINUTES", z, 3, 3, 40, 12 + 10 + 6, 6, 0, 0);
     }
 
     private static void firstOfSeveral() {
